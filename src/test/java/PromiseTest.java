@@ -351,6 +351,11 @@ public final class PromiseTest {
             due("p above", x.resolve(2, accept == 1), -1);
             due("step back", x.step(true), true);
             due("tracked again", x.paragraph(0, 5), 3);
+            x.drop(0);
+            x.drop(0);
+            due("all gone", x.resolve(0, accept == 1), 3);
+            due("from the first one on", x.paragraph(0, 4), accept == 1 ? 0 : 3);
+            due("and settled", x.paragraph(0, 5), 0);
         }
     }
 
@@ -571,6 +576,22 @@ public final class PromiseTest {
             x.insert(2, 0);
             due("a line of none", x.line(2, 0, 4), align == 1 ? 20 : align == 2 ? 10 : 0);
         }
+        start("14 align within left and right");
+        smallPage();
+        for (int align = 0; align < 4; align++) {
+            x.style(align, 0, 4);
+            x.style(align, 1, 1);
+            x.style(align, 6, align);
+            x.insert(align, align);
+            x.add(align, 4, 0);
+            x.add(align, 5, 0);
+            x.add(align, 15, 0);
+            due("two words", x.line(align, 0, 1), 2);
+            due("slack", x.line(align, 0, 5), 5);
+            due("begins", x.line(align, 0, 4), align == 1 ? 9 : align == 2 ? 6 : 4);
+            due("the second", x.word(align, 1), align == 1 ? 14 : align == 2 ? 11 : align == 3 ? 14 : 9);
+        }
+
         start("14 align 3, no remainder");
         smallPage();
         x.style(0, 6, 3);
@@ -727,6 +748,29 @@ public final class PromiseTest {
         due("and go together", x.line(2, 0, 2), 1);
         due("top", x.line(3, 0, 3), 1);
 
+        start("14 next, what is left free within is that of the next one");
+        smallPage();
+        x.style(1, 9, 1);
+        x.style(2, 3, 2);
+        x.style(3, 3, 9);
+        paragraphOfLines(0, 6);
+        paragraphOfLines(1, 1);
+        paragraphOfLines(2, 1);
+        paragraphOfLines(3, 1);
+        due("just has place", x.line(1, 0, 2), 0);
+        due("with the next one", x.line(2, 0, 3), 9);
+        due("not the one behind", x.line(3, 0, 2), 1);
+        x.add(0, 20, 0);
+        due("has none", x.line(1, 0, 2), 1);
+
+        start("14 head without the notes of further lines");
+        smallPage();
+        paragraphOfLines(0, 9);
+        paragraphOfLines(0, 1);
+        x.add(1, 20, 3);
+        due("the first line has place", x.line(1, 0, 2), 0);
+        due("the second one has none", x.line(1, 1, 2), 1);
+
         start("14 next, the last paragraph");
         smallPage();
         x.style(1, 9, 1);
@@ -863,11 +907,44 @@ public final class PromiseTest {
         x.mark(3, 5);
         due("the first one with it counts", x.total(1), 1);
         x.mark(3, 4);
+        x.mark(0, 5);
+        due("be it the very first", x.total(1), 1);
+        x.mark(0, -1);
         x.page(20, 10, 2);
         due("column 9 is on page 5", x.total(1), 1);
         x.page(20, 10, 1);
         x.mark(9, 6);
         due("a mark nothing refers to", x.total(1), 1);
+
+        x.mark(9, 5);
+        x.drop(0);
+        due("nothing refers to it any more", x.total(1), 1);
+        x.add(1, -1 - 5, 0);
+        due("a paragraph of the reference alone", x.total(1), 2);
+        due("it is 2 wide", x.line(1, 0, 5), 18);
+        x.step(true);
+        x.insert(10, 0);
+        x.add(10, -1 - 5, 0);
+        x.remove(10);
+        due("nor does a paragraph that went", x.total(1), 1);
+
+        start("17 pages 99 and 100");
+        smallPage();
+        x.style(0, 5, 4);
+        for (int i = 0; i < 98; i++) {
+            if (i % 16 == 0) {
+                x.insert(i / 16, 0);
+            }
+            x.add(i / 16, 20, 3);
+        }
+        x.insert(7, 0);
+        x.mark(7, 0);
+        x.add(7, -1, 3);
+        due("page 99", x.line(7, 0, 2), 98);
+        due("2 digits", x.line(7, 0, 5), 18);
+        x.add(6, 20, 3);
+        due("page 100", x.line(7, 0, 2), 99);
+        due("3 digits", x.line(7, 0, 5), 17);
 
         start("17 three rounds");
         smallPage();
