@@ -1,11 +1,5 @@
 /** For each promise ordinary inputs, edges and wrong inputs, with answers worked out by hand. */
-public final class PromiseTest {
-    private static final int MIN = Integer.MIN_VALUE;
-    private static final int MAX = Integer.MAX_VALUE;
-
-    private static PageSetter x;
-    private static String at;
-
+public final class PromiseTest extends Sheet {
     private PromiseTest() { }
 
     public static void main(String[] args) {
@@ -38,32 +32,6 @@ public final class PromiseTest {
         promise17FourRounds();
         promise18OrderAndLimits();
         Check.finish();
-    }
-
-    private static void start(String name) {
-        at = name;
-        x = new PageSetter();
-    }
-
-    private static void due(String what, int got, int want) {
-        Check.due(at + ": " + what, got, want);
-    }
-
-    private static void due(String what, boolean got, boolean want) {
-        Check.due(at + ": " + what, got, want);
-    }
-
-    /** A paragraph at the end, of words that fill a line of the narrowest page each. */
-    private static void paragraphOfLines(int style, int lines) {
-        int p = x.total(2);
-        x.insert(p, style);
-        for (int i = 0; i < lines; i++) {
-            x.add(p, 20, 0);
-        }
-    }
-
-    private static void smallPage() {
-        x.page(20, 10, 1);
     }
 
     private static void promise1New() {
